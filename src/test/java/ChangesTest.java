@@ -544,6 +544,10 @@ public final class ChangesTest {
         logged(l, 2, 4, 1, 1, 10);
         logged(l, 1, 5, 1, 0, 10);
         logged(l, 0, 5, 1, 1, 5);
+        l.purchase(0, 0, 20);
+        CHECKS.equal("one point in an account, one in a pool", l.advance(1), 2);
+        logged(l, 1, 4, 2, 0, 1);
+        logged(l, 0, 5, 2, 1, 1);
     }
 
     private static void promise14Tiers() {

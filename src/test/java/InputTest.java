@@ -63,6 +63,16 @@ public final class InputTest {
         CHECKS.refused("byte 601 behind ten that fit", IllegalStateException.class,
                 () -> Checks.typed(SIX_HUNDRED.substring(0, 590)),
                 l -> l.append(0x3b3b3b3b, 0x3b3b3b3b, 0x3b3b0000, 0, 0x3b));
+        String almost = SIX_HUNDRED.substring(0, 598);
+        CHECKS.refused("byte 601 in a", IllegalStateException.class,
+                () -> Checks.typed(almost), l -> l.append(0x202020, 0, 0, 0, 0));
+        CHECKS.refused("byte 601 in b", IllegalStateException.class,
+                () -> Checks.typed(almost), l -> l.append(0, 0x20200020, 0, 0, 0));
+        CHECKS.refused("byte 601 in c", IllegalStateException.class,
+                () -> Checks.typed(almost), l -> l.append(0, 0, 0x20002020, 0, 0));
+        CHECKS.refused("byte 601 in d", IllegalStateException.class,
+                () -> Checks.typed(almost), l -> l.append(0, 0, 0, 0x20202000, 0));
+        CHECKS.equal("bytes 599 and 600", Checks.typed(almost).append(0, 0x20, 0, 0x20, 0), 600);
         CHECKS.equal("the text of 600 bytes", Checks.typed(SIX_HUNDRED).load(), 1);
     }
 
@@ -142,6 +152,8 @@ public final class InputTest {
         position("member grace", 7);
         position("house category 1", 6);
         position("member lif;member lifes", -1);
+        position("member aa;member aq;member ba;member qa;member q;member a", -1);
+        position("member zzzzzz;member zzzzz;member zzzzzy;member azzzzz;member zzzzzz", 62);
         position("member ann;member ann", 18);
         position("tier ann 0 0;member ann", 20);
         position("category ann 0 0;house ann 0", 23);
@@ -261,7 +273,7 @@ public final class InputTest {
         ledger.purchase(1, 0, 500);
         ledger.transfer(1, 0, 20);
         ledger.refund(1);
-        ledger.advance(1);
+        ledger.advance(5);
         ledger.setShare(0, 3);
         return ledger;
     }
@@ -281,8 +293,12 @@ public final class InputTest {
         PointsLedger other = busyLedger();
         Checks.type(other, text);
         other.load();
+        CHECKS.equal("bonus and promotion are gone", other.wouldEarn(0, 0, 10000), 2);
         CHECKS.equal("the share too", other.setShare(0, 5), 70);
         CHECKS.equal("nobody lives there", other.join(0, 0), 1);
+        other.purchase(0, 0, 200);
+        other.refund(0);
+        CHECKS.equal("the window is a new one", other.qualifying(0), 0);
     }
 
     private static void promise6Find() {

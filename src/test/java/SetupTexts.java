@@ -5,7 +5,7 @@ import java.util.Random;
 /** Random setup texts, valid ones and broken ones. */
 final class SetupTexts {
     private static final String[] NAMES = {"a", "b", "ab", "abc", "ann", "anna", "annab", "bob",
-        "cy", "di", "zed", "z", "zz", "foodie", "food", "fuel", "home", "hut", "x", "y", "life", "q"};
+        "cy", "di", "zed", "z", "zz", "m", "mm", "mmm", "n", "nn", "aq", "aa", "qa", "zzzzzz", "foodie", "food", "fuel", "home", "hut", "x", "y", "life", "q"};
     private static final String[] ODD = {";", "", ";;", "tier", "category", "promo", "member",
         "house", "life", "window", "grace", "x", "toolong", "0", "1", "12345678", "0000005",
         "10000", "1000001", "-", "A", "\u00e9", "\t", "5x", "{", "`", "/", ":", "\u0001"};
@@ -55,7 +55,7 @@ final class SetupTexts {
                 free.add(name);
             }
         }
-        // Names up to 18 in all; a broken text may also have one statement too many.
+        // There are more names than statements; a broken text may have a statement too many.
         int more = valid ? 0 : random.nextInt(2);
         List<String> parts = new ArrayList<>();
         tiers(parts, random.nextInt(6) + (more > 0 && random.nextInt(4) == 0 ? 1 : 0));
@@ -71,7 +71,7 @@ final class SetupTexts {
             parts.add("promo " + categoryNames.get(random.nextInt(categories)) + " " + from + " "
                     + (from + random.nextInt(80)) + " " + (1 + random.nextInt(500)));
         }
-        for (int i = random.nextInt(5); i >= 0; i--) {
+        for (int i = random.nextInt(random.nextInt(5) == 0 ? 12 : 5); i >= 0; i--) {
             parts.add("member " + newName());
         }
         for (int i = random.nextInt(5); i > 0 && !free.isEmpty(); i--) {
