@@ -664,12 +664,16 @@ public final class PointsLedger {
             length = newLength;
         }
 
-        boolean isLetter(int index) {
-            return byteAt(index) >= 'a' && byteAt(index) <= 'z';
-        }
-
-        boolean isDigit(int index) {
-            return byteAt(index) >= '0' && byteAt(index) <= '9';
+        /** What the token is of which this byte is a part. */
+        int tokenAt(int index) {
+            if (index < 0 || index >= length || index >= bytes.length) {
+                return TOKEN_END;
+            }
+            int one = bytes[index];
+            if (one >= 'a' && one <= 'z') {
+                return TOKEN_WORD;
+            }
+            return one >= '0' && one <= '9' ? TOKEN_NUMBER : one;
         }
 
         boolean spells(String word, int from, int end) {
@@ -694,7 +698,7 @@ public final class PointsLedger {
             }
             int code = 0;
             for (int i = from; i < from + NAME_LIMIT; i++) {
-                if (i < end && !isLetter(i)) {
+                if (i < end && tokenAt(i) != TOKEN_WORD) {
                     return 0;
                 }
                 code = code << 5 | (i < end ? byteAt(i) - 'a' + 1 : 0);
@@ -944,20 +948,12 @@ public final class PointsLedger {
                 position++;
             }
             start = position;
-            if (position >= end) {
-                token = TOKEN_END;
-            } else if (text.isLetter(position)) {
-                token = TOKEN_WORD;
-                while (position < end && text.isLetter(position)) {
+            token = text.tokenAt(position);
+            if (token == TOKEN_WORD || token == TOKEN_NUMBER) {
+                while (position < end && text.tokenAt(position) == token) {
                     position++;
                 }
-            } else if (text.isDigit(position)) {
-                token = TOKEN_NUMBER;
-                while (position < end && text.isDigit(position)) {
-                    position++;
-                }
-            } else {
-                token = text.byteAt(position);
+            } else if (token != TOKEN_END) {
                 position++;
             }
         }
