@@ -208,6 +208,7 @@ public final class ChangesTest {
         l.purchase(1, 0, 10);
         l.refund(3);
         CHECKS.equal("the debt of another stays", l.debt(0), 30);
+        CHECKS.equal("one point", l.balance(1) + l.debt(1), 0);
     }
 
     /** ann bought 100 points on day 0 and 200 on day 1, of which 40 percent are in the pool. */

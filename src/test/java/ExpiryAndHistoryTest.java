@@ -43,6 +43,8 @@ public final class ExpiryAndHistoryTest {
         }
         CHECKS.equal("of another", l.expiringWithin(1, 10), 20);
         CHECKS.equal("of nothing", l.expiringWithin(2, 2000), 0);
+        l.advance(10);
+        CHECKS.equal("expired", l.expiringWithin(0, 2000), 0);
         CHECKS.refused("expiring: member -1", INDEX, ExpiryAndHistoryTest::cottage,
                 x -> x.expiringWithin(-1, 0));
         CHECKS.refused("expiring: member first", INDEX, ExpiryAndHistoryTest::cottage,
@@ -186,6 +188,8 @@ public final class ExpiryAndHistoryTest {
         order(l, 0, 4, 2, 1, 3, 5);
         l.purchase(3, 0, 600);
         order(l, 3, 0, 4, 2, 1, 5);
+        l.transfer(3, 0, 20);
+        order(l, 0, 3, 4, 2, 1, 5);
         CHECKS.refused("rank -1", INDEX, ExpiryAndHistoryTest::cottage, x -> x.rankedMember(-1));
         CHECKS.refused("rank 3", INDEX, ExpiryAndHistoryTest::cottage, x -> x.rankedMember(3));
         CHECKS.refused("nobody", INDEX, PointsLedger::new, x -> x.rankedMember(0));
@@ -334,7 +338,9 @@ public final class ExpiryAndHistoryTest {
         CHECKS.equal(what + " is a change", l.undoCount(), 8);
         CHECKS.equal(what + " is undone", l.undo(), 7);
         CHECKS.same(what + " leaves nothing", Picture.ofPresent(l), before);
-        CHECKS.equal("and again", Checks.outcome(l, call).equals(Checks.outcome(rich(), call)) ? 1 : 0, 1);
+        PointsLedger once = rich();
+        CHECKS.same(what + " again", Checks.outcome(l, call), Checks.outcome(once, call));
+        CHECKS.same("after " + what + " again", Picture.ofPresent(l), Picture.ofPresent(once));
     }
 
     private static void promise53And54SaveAndRestore() {
@@ -354,6 +360,12 @@ public final class ExpiryAndHistoryTest {
         CHECKS.same("all is as it was", Picture.ofPresent(l), saved);
         CHECKS.equal("the share too", l.setShare(0, 1), 50);
         CHECKS.same("nothing behind it", Checks.outcome(l, PointsLedger::undo), "0");
+        int next = l.purchaseCount();
+        l.purchase(1, 0, 70);
+        l.refund(next);
+        l.restore();
+        l.purchase(1, 0, 70);
+        CHECKS.equal("the refund is gone", l.purchasePart(next, 6), 0);
         l.advance(400);
         CHECKS.equal("the copy is kept", l.restore(), 1);
         CHECKS.same("all is as it was again", Picture.ofPresent(l), saved);

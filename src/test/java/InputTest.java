@@ -285,7 +285,7 @@ public final class InputTest {
     }
 
     private static void promise5LoadForgets() {
-        String text = "member zoe;category y 1 2;house k 70";
+        String text = "member zoe;category y 1 20;house k 70";
         PointsLedger ledger = busyLedger();
         Checks.type(ledger, text);
         CHECKS.equal("load again", ledger.load(), 1);
@@ -293,7 +293,7 @@ public final class InputTest {
         PointsLedger other = busyLedger();
         Checks.type(other, text);
         other.load();
-        CHECKS.equal("bonus and promotion are gone", other.wouldEarn(0, 0, 10000), 2);
+        CHECKS.equal("bonus and promotion are gone", other.wouldEarn(0, 0, 10000), 20);
         CHECKS.equal("the share too", other.setShare(0, 5), 70);
         CHECKS.equal("nobody lives there", other.join(0, 0), 1);
         other.purchase(0, 0, 200);

@@ -183,6 +183,11 @@ public final class TiersAndEarningTest {
             }
             CHECKS.equal("as it comes, after " + row[0], later.tier(0), row[1]);
         }
+        PointsLedger eve = ladder();
+        eve.purchase(0, 0, 2000);
+        eve.advance(9);
+        CHECKS.equal("below from tomorrow on, in three days", eve.tierAfter(0, 3), 2);
+        CHECKS.equal("below from tomorrow on, in four days", eve.tierAfter(0, 4), 0);
         PointsLedger late = ladder();
         for (int i = 0; i < 24; i++) {
             late.advance(400);
