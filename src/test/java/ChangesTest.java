@@ -42,30 +42,15 @@ public final class ChangesTest {
     }
 
     private static void logged(PointsLedger l, int index, int kind, int day, int subject, int number) {
-        CHECKS.equal("log " + index + " kind", l.log(index, 0), kind);
-        CHECKS.equal("log " + index + " day", l.log(index, 1), day);
-        CHECKS.equal("log " + index + " subject", l.log(index, 2), subject);
-        CHECKS.equal("log " + index + " number", l.log(index, 3), number);
+        CHECKS.logged("the log", l, index, kind, day, subject, number);
     }
 
-    /** The cohorts of an account as pairs of points and days. */
     private static void account(PointsLedger l, int member, int... due) {
-        CHECKS.equal("cohorts of " + member, l.cohortCount(member), due.length / 2);
-        for (int i = 0; i < Math.min(l.cohortCount(member), due.length / 2); i++) {
-            CHECKS.equal("points of cohort " + i, l.cohort(member, i, 0), due[2 * i]);
-            CHECKS.equal("day of cohort " + i, l.cohort(member, i, 1), due[2 * i + 1]);
-        }
+        CHECKS.account("the account", l, member, due);
     }
 
-    /** The cohorts of a pool as triples of points, days and contributors. */
     private static void pool(PointsLedger l, int household, int... due) {
-        CHECKS.equal("cohorts in pool " + household, l.poolCohortCount(household), due.length / 3);
-        for (int i = 0; i < Math.min(l.poolCohortCount(household), due.length / 3); i++) {
-            for (int what = 0; what <= 2; what++) {
-                CHECKS.equal("part " + what + " of pool cohort " + i,
-                        l.poolCohort(household, i, what), due[3 * i + what]);
-            }
-        }
+        CHECKS.pool("the pool", l, household, due);
     }
 
     private static void promise7Purchase() {

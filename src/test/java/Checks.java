@@ -28,9 +28,44 @@ final class Checks {
 
     /** The call throws an exception of exactly this class, and changes nothing by it. */
     void refused(String what, Class<?> due, Supplier<PointsLedger> start, Call call) {
-        PointsLedger ledger = start.get();
+        for (Picture view : Picture.values()) {
+            PointsLedger ledger = start.get();
+            thrown(what, due, ledger, call);
+            same(what + " changes nothing: " + view, view.of(ledger), view.of(start.get()));
+        }
+    }
+
+    /** The call throws an exception of exactly this class. */
+    void thrown(String what, Class<?> due, PointsLedger ledger, Call call) {
         same(what + " throws", outcome(ledger, call), due.getName());
-        same(what + " changes nothing", Picture.of(ledger), Picture.of(start.get()));
+    }
+
+    /** The cohorts of an account as pairs of points and days. */
+    void account(String what, PointsLedger l, int member, int... due) {
+        equal(what + ": cohorts of " + member, l.cohortCount(member), due.length / 2);
+        for (int i = 0; i < Math.min(l.cohortCount(member), due.length / 2); i++) {
+            equal(what + ": points of cohort " + i, l.cohort(member, i, 0), due[2 * i]);
+            equal(what + ": day of cohort " + i, l.cohort(member, i, 1), due[2 * i + 1]);
+        }
+    }
+
+    /** The cohorts of a pool as triples of points, days and contributors. */
+    void pool(String what, PointsLedger l, int household, int... due) {
+        equal(what + ": cohorts in pool " + household, l.poolCohortCount(household), due.length / 3);
+        for (int i = 0; i < Math.min(l.poolCohortCount(household), due.length / 3); i++) {
+            for (int part = 0; part <= 2; part++) {
+                equal(what + ": part " + part + " of pool cohort " + i,
+                        l.poolCohort(household, i, part), due[3 * i + part]);
+            }
+        }
+    }
+
+    /** An entry of the log. */
+    void logged(String what, PointsLedger l, int index, int kind, int day, int subject, int number) {
+        int[] due = {kind, day, subject, number};
+        for (int part = 0; part < due.length; part++) {
+            equal(what + ": log " + index + " part " + part, l.log(index, part), due[part]);
+        }
     }
 
     static String outcome(PointsLedger ledger, Call call) {

@@ -286,10 +286,13 @@ public final class InputTest {
 
     private static void promise5LoadForgets() {
         String text = "member zoe;category y 1 20;house k 70";
-        PointsLedger ledger = busyLedger();
-        Checks.type(ledger, text);
-        CHECKS.equal("load again", ledger.load(), 1);
-        CHECKS.same("everything is replaced", Picture.of(ledger), Picture.of(Checks.loaded(text)));
+        for (Picture view : Picture.values()) {
+            PointsLedger ledger = busyLedger();
+            Checks.type(ledger, text);
+            CHECKS.equal("load again", ledger.load(), 1);
+            CHECKS.same("everything is replaced: " + view, view.of(ledger),
+                    view.of(Checks.loaded(text)));
+        }
         PointsLedger other = busyLedger();
         Checks.type(other, text);
         other.load();
