@@ -332,8 +332,8 @@ public final class ExpiryAndHistoryTest {
     }
 
     private static void undone(String what, Checks.Call call) {
+        String before = Picture.ofPresent(rich());
         PointsLedger l = rich();
-        String before = Picture.ofPresent(l);
         call.on(l);
         CHECKS.equal(what + " is a change", l.undoCount(), 8);
         CHECKS.equal(what + " is undone", l.undo(), 7);
@@ -344,8 +344,8 @@ public final class ExpiryAndHistoryTest {
     }
 
     private static void promise53And54SaveAndRestore() {
+        String saved = Picture.ofPresent(rich());
         PointsLedger l = rich();
-        String saved = Picture.ofPresent(l);
         CHECKS.equal("save", l.save(), 1);
         CHECKS.equal("no change", l.undoCount(), 8);
         CHECKS.same("nothing changes by it", Picture.ofPresent(l), saved);
@@ -368,7 +368,7 @@ public final class ExpiryAndHistoryTest {
         CHECKS.equal("the refund is gone", l.purchasePart(next, 6), 0);
         l.advance(400);
         CHECKS.equal("the copy is kept", l.restore(), 1);
-        CHECKS.same("all is as it was again", Picture.ofPresent(l), saved);
+        CHECKS.same("all is as it was again", Picture.BOOKS.of(l), Picture.BOOKS.of(rich()));
         l.advance(5);
         CHECKS.equal("save later", l.save(), 6);
         l.undo();

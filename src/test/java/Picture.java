@@ -1,7 +1,7 @@
 /**
- * The views of a small ledger (at most 6 members, some 90 calls old): two ledgers that look
- * the same in all of them are the same. Some views use the ledger up, so each wants its own;
- * none makes so many calls that the ledger's 512 are over.
+ * The views of a ledger that is not too old: two ledgers that look the same in all of them are
+ * the same. Some views use the ledger up, so each wants its own; on a ledger of some 90 calls
+ * none makes so many that its 512 are over.
  */
 enum Picture {
     /** The input buffer, and what stands in it. */
@@ -63,10 +63,12 @@ enum Picture {
         @Override
         void draw(Pen pen) {
             pen.say("to undo", pen.ledger.undoCount());
-            for (int i = 0; i < 9; i++) {
+            for (int left = pen.ledger.undoCount(); left > 0; left--) {
                 pen.tell("undo", PointsLedger::undo);
                 pen.briefly();
             }
+            pen.tell("undo", PointsLedger::undo);
+            pen.briefly();
         }
     },
 
@@ -179,7 +181,7 @@ enum Picture {
                 tell("next expiry", l -> l.nextExpiry(m));
                 say("breakage", ledger.breakage(m));
                 say("rank", ledger.rankedMember(m));
-                for (int days = 1; days <= 8; days += 2) {
+                for (int days = 2; days <= 8; days += 3) {
                     say("tier after", ledger.tierAfter(m, days));
                     say("expiring", ledger.expiringWithin(m, 3 * days));
                 }
@@ -192,20 +194,22 @@ enum Picture {
 
         void log(int most) {
             say("\nlog", ledger.logSize());
-            for (int index = 0; index < Math.min(ledger.logSize(), most); index++) {
+            int size = Math.min(ledger.logSize(), most);
+            for (int index = 0; index < size; index++) {
                 for (int what = 0; what <= 3; what++) {
                     say("", ledger.log(index, what));
                 }
             }
         }
 
-        /** Little enough to be said nine times. */
+        /** Little enough to be said nine times, also with twelve members. */
         void briefly() {
             say("\nday", ledger.today());
             for (int what = 0; what <= 6; what++) {
                 say("total", ledger.total(what));
             }
-            for (int member = 0; member < ledger.setup(3); member++) {
+            int members = ledger.setup(3);
+            for (int member = 0; member < members; member++) {
                 say("balance", ledger.balance(member));
                 say("tier", ledger.tier(member));
                 say("home", ledger.household(member));

@@ -16,6 +16,7 @@ public final class PurchaseBoundsTest {
         poolOfOneself();
         leastAndGreatestCents();
         numbersAndFortyKept();
+        numbersBelowZero();
         keptOnesAfterUndo();
         refundFromTheDayInTheAccount();
         refundFromTheDayInThePool();
@@ -24,6 +25,7 @@ public final class PurchaseBoundsTest {
         refundOrderOfAllFour();
         refundLeavesOthers();
         refundFromThePresentHousehold();
+        refundOfTheSecondMember();
         refundWithoutHousehold();
         refundOfExpiredPoints();
         refundOfNoPoints();
@@ -31,6 +33,7 @@ public final class PurchaseBoundsTest {
         refundAddsToTheDebt();
         wouldEarnLeastAndGreatest();
         bestCategoryAmongSeveral();
+        earningOfTheSecondMember();
         leastCentsFromOneOn();
         leastCentsUpTo100000();
         leastCentsOfACap();
@@ -159,8 +162,24 @@ public final class PurchaseBoundsTest {
         CHECKS.equal("number 40 of 41", bought(41).purchasePart(40, 2), 100);
         CHECKS.refused("number 59 of 100", ELEMENT, () -> bought(100), l -> l.purchasePart(59, 2));
         CHECKS.equal("number 60 of 100", bought(100).purchasePart(60, 2), 100);
+        CHECKS.equal("number 99 of 100", bought(100).purchasePart(99, 2), 100);
+        CHECKS.equal("number 460 of 500", bought(500).purchasePart(460, 2), 100);
+        CHECKS.equal("number 499 of 500", bought(500).purchasePart(499, 4), 10);
+        CHECKS.thrown("number 459 of 500", ELEMENT, bought(500), l -> l.refund(459));
         CHECKS.equal("those that are not kept qualify", bought(100).qualifying(0), 1000);
         CHECKS.equal("and have their points", bought(100).balance(0), 1000);
+    }
+
+    /** No purchase has a negative number, however few there are. */
+    private static void numbersBelowZero() {
+        for (int count : new int[] {0, 1, 2, 39, 40, 41}) {
+            for (int purchase : new int[] {-1, -2, count}) {
+                CHECKS.refused("refund " + purchase + " of " + count, ELEMENT, () -> bought(count),
+                        l -> l.refund(purchase));
+                CHECKS.refused("part of " + purchase + " of " + count, ELEMENT, () -> bought(count),
+                        l -> l.purchasePart(purchase, 0));
+            }
+        }
     }
 
     private static void keptOnesAfterUndo() {
@@ -334,6 +353,23 @@ public final class PurchaseBoundsTest {
         CHECKS.pool("nothing left in k", l, 1);
     }
 
+    /** "this contributor": bob's points stand behind ann's. */
+    private static void refundOfTheSecondMember() {
+        PointsLedger l = shared();
+        refunded("bob's of the day", l, 2, 0, 60);
+        CHECKS.account("bob's account", l, 1);
+        CHECKS.pool("ann's are left", l, 0, 10, 50, 0, 20, 51, 0);
+        l = shared();
+        l.advance(1);
+        l.purchase(1, 0, 100);
+        l.transfer(1, 2, 30);
+        CHECKS.pool("bob's of two days", l, 0, 10, 50, 0, 20, 51, 0, 30, 51, 1, 5, 52, 1);
+        refunded("bob's: 30 of the day's pool, 5 of the account, 5 of the pool", l, 2, 20, 40);
+        CHECKS.pool("ann's are left again", l, 0, 10, 50, 0, 20, 51, 0);
+        CHECKS.account("ann's account stays", l, 0, 10, 50, 20, 51);
+        CHECKS.equal("ann has no debt", l.debt(0), 0);
+    }
+
     private static void refundWithoutHousehold() {
         PointsLedger l = shop(";house h 50;life 50");
         l.join(1, 0);
@@ -418,6 +454,25 @@ public final class PurchaseBoundsTest {
                 + "category e 1 0;category f 1 0;category g 1 0;category h 2 0;member m");
         CHECKS.equal("the last is best", last.bestCategory(0, 50), 7);
         CHECKS.equal("the last is as good", last.bestCategory(0, 49), 0);
+    }
+
+    /** "a member": the bonus is that of the member's tier, and may decide. */
+    private static void earningOfTheSecondMember() {
+        PointsLedger l = Checks.loaded("tier a 0 0;tier b 100 300;category c 10 0;category d 15 0;"
+                + "promo c 0 9 100;member ann;member bob");
+        l.purchase(1, 0, 1000);
+        CHECKS.equal("ann's points", l.wouldEarn(0, 0, 100), 20);
+        CHECKS.equal("bob's points", l.wouldEarn(1, 0, 100), 50);
+        CHECKS.equal("ann's other points", l.wouldEarn(0, 1, 100), 15);
+        CHECKS.equal("bob's other points", l.wouldEarn(1, 1, 100), 60);
+        CHECKS.equal("ann's best", l.bestCategory(0, 100), 0);
+        CHECKS.equal("bob's best", l.bestCategory(1, 100), 1);
+        CHECKS.equal("ann's least", l.leastCents(0, 0, 10), 50);
+        CHECKS.equal("bob's least", l.leastCents(1, 0, 10), 20);
+        CHECKS.equal("ann's most", l.leastCents(0, 0, 20000), 100000);
+        CHECKS.thrown("ann's one more", ELEMENT, l, x -> x.leastCents(0, 0, 20001));
+        CHECKS.equal("bob's most", l.leastCents(1, 0, 50000), 100000);
+        CHECKS.thrown("bob's one more", ELEMENT, l, x -> x.leastCents(1, 0, 50001));
     }
 
     private static void least(PointsLedger l, int category, int points, int due) {

@@ -13,9 +13,12 @@ public final class RefusalsTest {
     private static final Class<?> STATE = IllegalStateException.class;
     private static final Class<?> ELEMENT = NoSuchElementException.class;
 
-    private static final int[] NO_MEMBER = around(Busy.MEMBERS);
+    // Behind the twelve accounts that there can be there may be pools, and accounts before them.
+    private static final int[] NO_MEMBER = {-1, Busy.MEMBERS, 11, 12, 15, 16, Integer.MIN_VALUE,
+        Integer.MAX_VALUE};
     private static final int[] NO_CATEGORY = around(Busy.CATEGORIES);
-    private static final int[] NO_HOUSE = around(Busy.HOUSES);
+    private static final int[] NO_HOUSE = {-1, Busy.HOUSES, 3, 4, -12, -8, Integer.MIN_VALUE,
+        Integer.MAX_VALUE};
     private static final int[] NO_CENTS = {0, -1, 100001, Integer.MIN_VALUE, Integer.MAX_VALUE};
     private static final int[] NO_POINTS = {0, -1, Integer.MIN_VALUE};
 

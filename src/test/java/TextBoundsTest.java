@@ -54,7 +54,9 @@ public final class TextBoundsTest {
         periodsAtMostOnce();
         nameHasOneToSixLetters();
         nameIsNoKeyword();
+        keywordsAreExact();
         nameIsNew();
+        namesThatAreAlike();
         categoryWasDefinedBefore();
         firstTokenThatCannotBeAccepted();
         textEndsTooEarly();
@@ -67,6 +69,8 @@ public final class TextBoundsTest {
         appendOrder();
         appendSkipsZeros();
         appendUpTo600();
+        appendCountsEachByte();
+        lastByteOfTheBuffer();
         appendRefused();
         truncate();
         truncateRefused();
@@ -507,6 +511,23 @@ public final class TextBoundsTest {
         at("category c 0 0;promo ^category 0 0 1");
     }
 
+    /** A word that has another letter somewhere, one letter less or one more, is no keyword. */
+    private static void keywordsAreExact() {
+        for (String[] statement : STATEMENTS) {
+            String keyword = statement[0];
+            String rest = beginning(statement, statement.length)
+                    .substring("category food 0 0;".length() + keyword.length());
+            for (int i = 0; i < keyword.length(); i++) {
+                String other = keyword.substring(0, i) + "x" + keyword.substring(i + 1);
+                at("category food 0 0;^" + other + rest);
+            }
+            at("category food 0 0;^" + keyword.substring(1) + rest);
+            at("category food 0 0;^" + keyword.substring(0, keyword.length() - 1) + rest);
+            at("category food 0 0;^" + keyword + "s" + rest);
+            valid("category food 0 0;" + keyword + rest);
+        }
+    }
+
     /** "and is not the name of something that was defined before" */
     private static void nameIsNew() {
         for (String first : NAMING) {
@@ -526,6 +547,24 @@ public final class TextBoundsTest {
         Checks.type(l, "house ann 0");
         CHECKS.equal("a name of an earlier setup", l.errorPosition(), PointsLedger.NONE);
         CHECKS.equal("the same text once more", l.errorPosition(), PointsLedger.NONE);
+    }
+
+    /** Names that differ in one letter, or in their length, are different names. */
+    private static void namesThatAreAlike() {
+        valid("member aa;member aq;member ba;member qa;member a;member q;member aaa;member qaa");
+        valid("member zzzzzz;member zzzzzy;member yzzzzz;member zzzzz;member zzyzzz");
+        valid("member b;member ba;member baa;member baaa;member baaaa;member baaaaa;member ab");
+        String names = "abcdefghijklmnopqrstuvwxyz";
+        for (int i = 0; i < 26; i++) {
+            for (int j = 0; j < 26; j++) {
+                String text = "member m" + names.charAt(i) + ";member m" + names.charAt(j);
+                if (i == j) {
+                    at("member m" + names.charAt(i) + ";member ^m" + names.charAt(j));
+                } else {
+                    valid(text);
+                }
+            }
+        }
     }
 
     /** "CATEGORY is the name of a category that was defined before." */
@@ -726,6 +765,39 @@ public final class TextBoundsTest {
         CHECKS.equal("and gone", last.errorPosition(), PointsLedger.NONE);
         last.append(0x3b, 0, 0, 0, 0);
         CHECKS.equal("and back", last.errorPosition(), 600);
+    }
+
+    /** Wherever a byte stands, and whatever it is but 0, it is one byte. */
+    private static void appendCountsEachByte() {
+        for (int one : new int[] {1, 2, 0x7f, 0x80, 0xff}) {
+            for (int place = 0; place < 20; place++) {
+                int[] w = new int[5];
+                w[place / 4] = one << 24 - place % 4 * 8;
+                String what = "byte " + one + " at place " + place;
+                CHECKS.equal(what + ": the first", new PointsLedger().append(w[0], w[1], w[2], w[3], w[4]), 1);
+                CHECKS.equal(what + ": number 600",
+                        withBytes(599).append(w[0], w[1], w[2], w[3], w[4]), 600);
+                PointsLedger l = withBytes(600);
+                CHECKS.thrown(what + ": number 601", STATE, l, x -> x.append(w[0], w[1], w[2], w[3], w[4]));
+                CHECKS.equal(what + ": nothing is appended", l.append(0, 0, 0, 0, 0), 600);
+                CHECKS.equal(what + ": the text stays", l.load(), 1);
+            }
+        }
+    }
+
+    /** Tokens that end with byte 600 are read whole. */
+    private static void lastByteOfTheBuffer() {
+        for (String keyword : KEYWORDS) {
+            at(" ".repeat(600 - keyword.length()) + keyword + "^");
+            at(" ".repeat(601 - keyword.length()) + "^" + keyword.substring(1));
+        }
+        valid(" ".repeat(591) + "grace 400");
+        at(" ".repeat(591) + "grace ^401");
+        valid(" ".repeat(587) + "member qwerty");
+        at(" ".repeat(577) + "house m 0;member ^m");
+        at(" ".repeat(591) + "member a;^");
+        valid(" ".repeat(300) + "life 7" + " ".repeat(294));
+        at("life 7" + " ".repeat(593) + "^!");
     }
 
     /** "(nothing is appended then)" */

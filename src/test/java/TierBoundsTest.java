@@ -9,8 +9,10 @@ public final class TierBoundsTest {
     private static final Class<?> ELEMENT = NoSuchElementException.class;
 
     public static void main(String[] args) {
+        tiersOfTheSecondMember();
         windowFirstDay();
         windowLastDay();
+        windowOfWhatIsNotKept();
         qualifyingWithoutRefunds();
         qualifyingOfOneself();
         earnedAtTheThreshold();
@@ -35,6 +37,7 @@ public final class TierBoundsTest {
         tierAfterTheGrace();
         tierAfterMostDays();
         tierAfterIsAsItComes();
+        tierAfterInALongWindow();
         rankByTier();
         rankByBalance();
         rankByName();
@@ -58,6 +61,30 @@ public final class TierBoundsTest {
         CHECKS.equal(what + ": earned tier", l.earnedTier(0), due[1]);
         CHECKS.equal(what + ": qualifying sum", l.qualifying(0), due[2]);
         CHECKS.equal(what + ": below since", l.belowSince(0), due[3]);
+    }
+
+    /** "of a member": ann is on the lowest tier, and bob is not. */
+    private static void tiersOfTheSecondMember() {
+        PointsLedger l = ladder();
+        l.purchase(1, 0, 1500);
+        l.purchase(0, 0, 300);
+        CHECKS.equal("bob's tier", l.tier(1), 1);
+        CHECKS.equal("bob's earned tier", l.earnedTier(1), 1);
+        CHECKS.equal("bob's qualifying sum", l.qualifying(1), 150);
+        CHECKS.equal("bob to the next tier", l.toNextTier(1), 50);
+        CHECKS.equal("bob now", l.tierAfter(1, 0), 1);
+        CHECKS.equal("bob in 6 days", l.tierAfter(1, 6), 1);
+        CHECKS.equal("bob in 7 days", l.tierAfter(1, 7), 0);
+        standing("ann", l, 0, 0, 30, PointsLedger.NONE);
+        l.advance(5);
+        CHECKS.equal("bob is below", l.belowSince(1), 4);
+        CHECKS.equal("bob in 1 day", l.tierAfter(1, 1), 1);
+        CHECKS.equal("bob in 2 days", l.tierAfter(1, 2), 0);
+        CHECKS.equal("ann in 2 days", l.tierAfter(0, 2), 0);
+        standing("ann", l, 0, 0, 0, PointsLedger.NONE);
+        l.purchase(0, 0, 2000);
+        CHECKS.equal("ann rises, bob falls", l.tierAfter(1, 2), 0);
+        CHECKS.equal("ann rises and stays", l.tierAfter(0, 2), 2);
     }
 
     /** "on the days from (present day - window + 1)": 4 days on which day 2 counts. */
@@ -96,6 +123,29 @@ public final class TierBoundsTest {
         day.advance(1);
         day.purchase(0, 0, 400);
         CHECKS.equal("the next day alone", day.qualifying(0), 40);
+    }
+
+    /** "of the bases of all purchases": also of those that are not among the latest 40. */
+    private static void windowOfWhatIsNotKept() {
+        PointsLedger l = ladder();
+        for (int i = 0; i < 50; i++) {
+            l.purchase(0, 0, 20);
+        }
+        l.advance(1);
+        for (int i = 0; i < 41; i++) {
+            l.purchase(1, 0, 20);
+        }
+        standing("50 purchases that are not kept", l, 1, 1, 100, PointsLedger.NONE);
+        CHECKS.equal("they are in the window till day 3", l.tierAfter(0, 5), 1);
+        CHECKS.equal("and till day 6 in the grace", l.tierAfter(0, 6), 0);
+        l.advance(2);
+        CHECKS.equal("on day 3", l.qualifying(0), 100);
+        CHECKS.equal("bob's on day 3", l.qualifying(1), 82);
+        l.advance(1);
+        standing("on day 4", l, 1, 0, 0, 4);
+        CHECKS.equal("bob's on day 4", l.qualifying(1), 82);
+        l.advance(1);
+        CHECKS.equal("bob's on day 5", l.qualifying(1), 0);
     }
 
     /** "without refunded ones" */
@@ -457,6 +507,22 @@ public final class TierBoundsTest {
             int said = l.tierAfter(0, days);
             l.advance(days);
             CHECKS.equal("the tier after " + days, said, l.tier(0));
+        }
+    }
+
+    /** What leaves the window is gone once: 150 of 250 stay from day 10 to day 14. */
+    private static void tierAfterInALongWindow() {
+        PointsLedger l = ladder(";window 10;grace 1");
+        l.purchase(0, 0, 1000);
+        l.advance(5);
+        l.purchase(0, 0, 1500);
+        int[] due = {2, 2, 2, 2, 2, 2, 1, 1, 1, 1, 1, 0, 0};
+        for (int days = 0; days < due.length; days++) {
+            CHECKS.equal("in a long window, after " + days, l.tierAfter(0, days), due[days]);
+        }
+        for (int days = 1; days < due.length; days++) {
+            l.advance(1);
+            CHECKS.equal("in a long window, on day " + l.today(), l.tier(0), due[days]);
         }
     }
 
